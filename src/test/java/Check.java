@@ -22,7 +22,7 @@ final class Check {
         System.out.println(fault);
     }
 
-    /** The call must throw just that class (none below it: the machine throws those), and change nothing. */
+    /** The call must throw just that class (none below it: the machine throws those) itself, and change nothing. */
     static void fails(GoodsKeeper keeper, String what, Class<? extends RuntimeException> want, Runnable call) {
         String before = state(keeper);
         Class<?> got = null;
@@ -30,11 +30,20 @@ final class Check {
             call.run();
         } catch (RuntimeException thrown) {
             got = thrown.getClass();
+            thrownByKeeper(what, thrown);
         }
         if (got != want) {
             note(what + " threw " + got + ", due is " + want);
         }
         sameState(what, before, keeper);
+    }
+
+    /** The library would throw for a wrong index, too: the throw must be one of the keeper's own. */
+    static void thrownByKeeper(String what, Exception thrown) {
+        StackTraceElement[] trace = thrown.getStackTrace();
+        if (trace.length == 0 || !trace[0].getClassName().startsWith("GoodsKeeper")) {
+            note(what + " was thrown by another: " + thrown);
+        }
     }
 
     static void sameState(String what, String before, GoodsKeeper keeper) {

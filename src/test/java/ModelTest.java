@@ -57,6 +57,7 @@ public final class ModelTest {
             answer = got.call();
         } catch (Exception thrown) {
             answer = thrown.getClass().getSimpleName();
+            Check.thrownByKeeper(call, thrown);
         }
         String name = call.split("\\(")[0];
         seen.merge(name + " " + due, 1, Integer::sum);
