@@ -1,8 +1,17 @@
-/** What the tests share: noting wrong answers, and the whole state of a keeper as its calls tell it. */
+import java.util.function.BooleanSupplier;
+import java.util.function.LongSupplier;
+
+/** What the tests share: noting wrong answers, and seeing that a call changed nothing. */
 final class Check {
     private static int wrong = 0;
+    private static String about = "";
 
     private Check() {
+    }
+
+    /** Names what the answers that follow are about. */
+    static void begin(String subject) {
+        about = subject + ": ";
     }
 
     static void same(String what, long got, long want) {
@@ -19,12 +28,12 @@ final class Check {
 
     static void note(String fault) {
         wrong++;
-        System.out.println(fault);
+        System.out.println(about + fault);
     }
 
     /** The call must throw just that class (none below it: the machine throws those) itself, and change nothing. */
-    static void fails(GoodsKeeper keeper, String what, Class<? extends RuntimeException> want, Runnable call) {
-        String before = state(keeper);
+    static void fails(Tape keeper, String what, Class<? extends RuntimeException> want, Runnable call) {
+        int before = keeper.length();
         Class<?> got = null;
         try {
             call.run();
@@ -35,7 +44,7 @@ final class Check {
         if (got != want) {
             note(what + " threw " + got + ", due is " + want);
         }
-        sameState(what, before, keeper);
+        unchanged(keeper, what, before);
     }
 
     /** The library would throw for a wrong index, too: the throw must be one of the keeper's own. */
@@ -46,50 +55,25 @@ final class Check {
         }
     }
 
-    static void sameState(String what, String before, GoodsKeeper keeper) {
-        String after = state(keeper);
-        if (!before.equals(after)) {
-            note(what + " changed\n  " + before + "\nto\n  " + after);
+    /** Nothing is other than it was when so many calls had been made. */
+    static void unchanged(Tape keeper, String what, int before) {
+        String then = Picture.of(keeper, before);
+        String now = Picture.of(keeper, keeper.length());
+        if (keeper.length() < Tape.MOST_CALLS && !then.equals(now)) {
+            note(what + " changed\n  " + then + "\nto\n  " + now);
         }
     }
 
     /** A false answer must leave all as it was. */
-    static void refused(GoodsKeeper keeper, String what, java.util.function.BooleanSupplier call) {
-        String before = state(keeper);
-        same(what, call.getAsBoolean(), false);
-        sameState(what, before, keeper);
+    static void refused(Tape keeper, String what, BooleanSupplier call) {
+        idle(keeper, what, 0, () -> call.getAsBoolean() ? 1 : 0);
     }
 
-    static String state(GoodsKeeper keeper) {
-        StringBuilder text = new StringBuilder();
-        for (int what = 0; what <= 8; what++) {
-            text.append(keeper.count(what)).append(' ');
-        }
-        text.append(keeper.gains()).append(keeper.earns()).append(keeper.bars());
-        for (int kind = 0; kind < 4; kind++) {
-            text.append(" s").append(keeper.sum(kind, false)).append('/').append(keeper.sum(kind, true));
-        }
-        for (int player = 0; player < keeper.count(1); player++) {
-            text.append(" p");
-            for (int kind = 0; kind < 4; kind++) {
-                text.append(keeper.has(player, kind)).append(',');
-            }
-        }
-        for (int single = 0; single < keeper.count(3); single++) {
-            text.append(singleState(keeper, single));
-        }
-        return text.toString();
-    }
-
-    private static String singleState(GoodsKeeper keeper, int single) {
-        StringBuilder text = new StringBuilder(" [");
-        for (int what = 0; what <= 8; what++) {
-            text.append(keeper.look(single, what)).append(' ');
-        }
-        for (int k = -1; k <= 31; k++) {
-            text.append(keeper.line(single, k, false)).append('@').append(keeper.line(single, k, true)).append(' ');
-        }
-        return text.append(']').toString();
+    /** The answer is due, and all is left as it was. */
+    static void idle(Tape keeper, String what, long want, LongSupplier call) {
+        int before = keeper.length();
+        same(what, call.getAsLong(), want);
+        unchanged(keeper, what, before);
     }
 
     static void end() {

@@ -1,7 +1,7 @@
 /** Promise 25: count. */
 public final class CountTest {
     public static void main(String[] args) {
-        GoodsKeeper x = new GoodsKeeper();
+        Tape x = new Tape();
         for (int i = 0; i < 3; i++) {
             x.player();
         }
@@ -45,7 +45,7 @@ public final class CountTest {
         Check.end();
     }
 
-    private static void counts(GoodsKeeper x, int... due) {
+    private static void counts(Tape x, int... due) {
         for (int what = 0; what < due.length; what++) {
             Check.same("count(" + what + ")", x.count(what), due[what]);
         }

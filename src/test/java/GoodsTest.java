@@ -14,12 +14,11 @@ public final class GoodsTest {
         deedExceptions();
         deedNumbers();
         sums();
-        tooMany();
         Check.end();
     }
 
     private static void newObject() {
-        GoodsKeeper x = new GoodsKeeper();
+        Tape x = new Tape();
         for (int what = 0; what <= 8; what++) {
             Check.same("new count(" + what + ")", x.count(what), 0);
         }
@@ -35,7 +34,7 @@ public final class GoodsTest {
     }
 
     private static void players() {
-        GoodsKeeper x = new GoodsKeeper();
+        Tape x = new Tape();
         for (int i = 0; i < 10; i++) {
             Check.same("player()", x.player(), i);
             for (int kind = 0; kind < 4; kind++) {
@@ -47,7 +46,7 @@ public final class GoodsTest {
     }
 
     private static void rules() {
-        GoodsKeeper x = new GoodsKeeper();
+        Tape x = new Tape();
         for (int i = 0; i < 10; i++) {
             Check.same("rule()", x.rule(i % 2 == 0), i);
         }
@@ -61,7 +60,7 @@ public final class GoodsTest {
     }
 
     private static void parts() {
-        GoodsKeeper x = new GoodsKeeper();
+        Tape x = new Tape();
         x.player();
         x.rule(false);
         for (int kind = 0; kind < 4; kind++) {
@@ -90,7 +89,7 @@ public final class GoodsTest {
     }
 
     private static void deeds() {
-        GoodsKeeper x = new GoodsKeeper();
+        Tape x = new Tape();
         x.player();
         x.player();
         x.rule(true);
@@ -122,7 +121,7 @@ public final class GoodsTest {
     }
 
     private static void deedsByKinds() {
-        GoodsKeeper x = new GoodsKeeper();
+        Tape x = new Tape();
         x.player();
         x.rule(true);
         x.part(0, 0, true, 9);
@@ -136,13 +135,14 @@ public final class GoodsTest {
         Check.same("source", x.deed(0, 2, 0, 1), 0);
         Check.same("IN is there", x.deed(0, 3, 2, 1), 0);
         Check.same("IN and OUT alike", x.has(0, 0), 9);
-        String before = Check.state(x);
         Check.same("too few of the last kind", x.deed(0, 4, 1, 1), 1);
-        Check.sameState("whole or not at all", before, x);
+        Check.same("nothing of the first kind is taken", x.has(0, 0), 9);
+        Check.same("nothing is broken", x.sum(0, true), 9);
+        Check.same("no deed is done", x.count(8), 2);
     }
 
     private static void deedExceptions() {
-        GoodsKeeper x = new GoodsKeeper();
+        Tape x = new Tape();
         x.player();
         x.rule(false);
         x.part(0, 0, true, 1);
@@ -166,7 +166,7 @@ public final class GoodsTest {
     }
 
     private static void deedNumbers() {
-        GoodsKeeper x = new GoodsKeeper();
+        Tape x = new Tape();
         x.player();
         x.rule(false);
         x.part(0, 0, true, 1);
@@ -180,7 +180,7 @@ public final class GoodsTest {
     }
 
     private static void sums() {
-        GoodsKeeper x = new GoodsKeeper();
+        Tape x = new Tape();
         x.player();
         x.player();
         x.rule(true);
@@ -206,31 +206,5 @@ public final class GoodsTest {
         Check.same("trades break nothing", x.sum(2, true), 15);
         Check.fails(x, "sum of kind 4", INDEX, () -> x.sum(4, false));
         Check.fails(x, "sum of kind -1", INDEX, () -> x.sum(-1, true));
-    }
-
-    /** The top of 1000000000 lies beyond the 512 calls of the promise; it is kept there all the same. */
-    private static void tooMany() {
-        GoodsKeeper x = new GoodsKeeper();
-        x.player();
-        x.rule(true);
-        x.part(0, 1, true, 9);
-        int number = 0;
-        for (int i = 0; i < 111111; i++) {
-            x.deed(0, ++number, 0, 1000);
-        }
-        Check.same("near the top", x.has(0, 1), 999999000);
-        Check.same("too many by far", x.deed(0, ++number, 0, 1000), 2);
-        Check.same("sent again", x.deed(0, number, 0, 1), 2);
-        Check.same("nothing is given", x.has(0, 1), 999999000);
-        x.part(0, 1, true, 1);
-        Check.same("up to the top", x.deed(0, ++number, 0, 1000), 0);
-        Check.same("the top", x.has(0, 1), 1000000000);
-        Check.same("too many by 1", x.deed(0, ++number, 0, 1), 2);
-        x.part(0, 1, false, 1);
-        Check.same("IN is taken first", x.deed(0, ++number, 0, 1000), 0);
-        x.part(0, 1, false, 0);
-        x.part(0, 2, false, 1);
-        Check.same("too few ahead of too many", x.deed(0, ++number, 0, 1), 1);
-        Check.same("made in all", x.sum(1, false), 1000001000L);
     }
 }

@@ -20,7 +20,7 @@ public final class HuntTest {
         Check.end();
     }
 
-    private static int ruleOf(GoodsKeeper x, boolean source, int... won) {
+    private static int ruleOf(Tape x, boolean source, int... won) {
         int rule = x.rule(source);
         for (int kind = 0; kind < won.length; kind++) {
             x.part(rule, kind, won[kind] > 0, Math.abs(won[kind]));
@@ -29,7 +29,7 @@ public final class HuntTest {
     }
 
     private static void noRules() {
-        GoodsKeeper x = new GoodsKeeper();
+        Tape x = new Tape();
         Check.same("gains", x.gains(), false);
         Check.same("earns", x.earns(), false);
         Check.same("bars", x.bars(), false);
@@ -40,7 +40,7 @@ public final class HuntTest {
     }
 
     private static void sourcesAreLeftAside() {
-        GoodsKeeper x = new GoodsKeeper();
+        Tape x = new Tape();
         ruleOf(x, true, 1, 1, 1, 1);
         x.times(0, 1000);
         for (int kind = 0; kind < KINDS; kind++) {
@@ -58,7 +58,7 @@ public final class HuntTest {
     }
 
     private static void roundTrip() {
-        GoodsKeeper x = new GoodsKeeper();
+        Tape x = new Tape();
         ruleOf(x, false, -2, 3);
         Check.same("one way", x.gains(), false);
         ruleOf(x, false, 2, -3);
@@ -75,7 +75,7 @@ public final class HuntTest {
     }
 
     private static void gainNeedsNoLoss() {
-        GoodsKeeper x = new GoodsKeeper();
+        Tape x = new Tape();
         ruleOf(x, false, 9, 9, 9, -1);
         Check.same("one kind is lost", x.gains(), false);
         ruleOf(x, false, -9, -9, -9, 1);
@@ -86,7 +86,7 @@ public final class HuntTest {
 
     /** One of the last is worth 729 of the first: the only gain is a small one, after many times. */
     private static void manyTimes() {
-        GoodsKeeper x = new GoodsKeeper();
+        Tape x = new Tape();
         ruleOf(x, false, -9, 1, 0, 0);
         ruleOf(x, false, 0, -9, 1, 0);
         ruleOf(x, false, 0, 0, -9, 1);
@@ -106,7 +106,7 @@ public final class HuntTest {
     }
 
     private static void longWay() {
-        GoodsKeeper x = new GoodsKeeper();
+        Tape x = new Tape();
         ruleOf(x, false, -7, 8, 0, 0);
         ruleOf(x, false, 0, -8, 9, 0);
         ruleOf(x, false, 0, 0, -9, 5);
@@ -119,7 +119,7 @@ public final class HuntTest {
     }
 
     private static void timesAreTold() {
-        GoodsKeeper x = new GoodsKeeper();
+        Tape x = new Tape();
         ruleOf(x, false, -2, 3);
         ruleOf(x, false, 2, -2);
         x.times(0, 1);
@@ -147,7 +147,7 @@ public final class HuntTest {
     }
 
     private static void weightsAreTold() {
-        GoodsKeeper x = new GoodsKeeper();
+        Tape x = new Tape();
         for (int kind = 0; kind < KINDS; kind++) {
             Check.same("not all above 0", x.bars(), false);
             x.weigh(kind, 1000);
@@ -167,7 +167,7 @@ public final class HuntTest {
     }
 
     private static void barring() {
-        GoodsKeeper x = new GoodsKeeper();
+        Tape x = new Tape();
         ruleOf(x, false, -2, 3);
         x.weigh(0, 3);
         x.weigh(1, 2);
@@ -197,7 +197,7 @@ public final class HuntTest {
         for (int round = 0; round < rounds; round++) {
             int rules = 1 + random.nextInt(round % 10 == 0 ? 10 : 6);
             int[][] won = randomRules(random, rules, round % 4);
-            GoodsKeeper x = new GoodsKeeper();
+            Tape x = new Tape();
             for (int[] each : won) {
                 boolean source = random.nextInt(8) == 0;
                 ruleOf(x, source, each);

@@ -10,7 +10,6 @@ public final class OffersTest {
         wholeTrade();
         tooFew();
         sameKind();
-        tooMany();
         singlesThatMayNot();
         oneSingleOnBothSides();
         notedWear();
@@ -20,8 +19,8 @@ public final class OffersTest {
     }
 
     /** Players 0 and 1 with 100 of each kind, and player 2 with nothing. */
-    private static GoodsKeeper withGoods() {
-        GoodsKeeper x = new GoodsKeeper();
+    private static Tape withGoods() {
+        Tape x = new Tape();
         x.rule(true);
         for (int kind = 0; kind < 4; kind++) {
             x.part(0, kind, true, 1);
@@ -34,14 +33,12 @@ public final class OffersTest {
         return x;
     }
 
-    private static void refusedWith(GoodsKeeper x, int offer, int why) {
-        String before = Check.state(x);
-        Check.same("agree to " + offer, x.agree(offer), why);
-        Check.sameState("agree to " + offer, before, x);
+    private static void refusedWith(Tape x, int offer, int why) {
+        Check.idle(x, "agree to " + offer, why, () -> x.agree(offer));
     }
 
     private static void offerExceptions() {
-        GoodsKeeper x = withGoods();
+        Tape x = withGoods();
         x.single(0, false, 0);
         Check.fails(x, "a is 3", INDEX, () -> x.offer(3, 1, 0, 0, -1, 0, 0, -1));
         Check.fails(x, "a is -1", INDEX, () -> x.offer(-1, 1, 0, 0, -1, 0, 0, -1));
@@ -66,7 +63,7 @@ public final class OffersTest {
     }
 
     private static void offerLimit() {
-        GoodsKeeper x = withGoods();
+        Tape x = withGoods();
         for (int i = 0; i < 60; i++) {
             Check.same("offer()", x.offer(0, 1, 0, 0, -1, 0, 0, -1), i);
         }
@@ -82,7 +79,7 @@ public final class OffersTest {
     }
 
     private static void wholeTrade() {
-        GoodsKeeper x = withGoods();
+        Tape x = withGoods();
         x.single(0, false, 1);
         x.single(0, false, 0);
         x.single(1, false, 0);
@@ -109,7 +106,7 @@ public final class OffersTest {
     }
 
     private static void tooFew() {
-        GoodsKeeper x = withGoods();
+        Tape x = withGoods();
         x.offer(0, 1, 101, 1, -1, 0, 0, -1);
         x.offer(0, 1, 0, 0, -1, 101, 1, -1);
         x.offer(0, 1, 101, 1, -1, 101, 1, -1);
@@ -126,7 +123,7 @@ public final class OffersTest {
     }
 
     private static void sameKind() {
-        GoodsKeeper x = withGoods();
+        Tape x = withGoods();
         x.offer(0, 1, 100, 3, -1, 40, 3, -1);
         Check.same("agree", x.agree(0), 0);
         Check.same("a has", x.has(0, 3), 40);
@@ -135,38 +132,8 @@ public final class OffersTest {
         refusedWith(x, 1, 2);
     }
 
-    /** The top of 1000000000 lies beyond the 512 calls of the promise; it is kept there all the same. */
-    private static void tooMany() {
-        GoodsKeeper x = withGoods();
-        x.part(0, 0, true, 0);
-        x.part(0, 2, true, 0);
-        x.part(0, 3, true, 0);
-        x.part(0, 1, true, 9);
-        int number = 1;
-        for (int i = 0; i < 111111; i++) {
-            x.deed(0, ++number, 0, 1000);
-        }
-        x.part(0, 1, true, 1);
-        x.deed(0, ++number, 0, 900);
-        Check.same("a has the top", x.has(0, 1), 1000000000);
-        x.offer(0, 1, 5, 0, -1, 1, 1, -1);
-        x.offer(1, 0, 1, 1, -1, 5, 0, -1);
-        x.offer(0, 1, 5, 1, -1, 6, 1, -1);
-        x.offer(0, 1, 5, 1, -1, 5, 1, -1);
-        x.offer(1, 0, 6, 1, -1, 5, 1, -1);
-        refusedWith(x, 0, 4);
-        refusedWith(x, 1, 5);
-        refusedWith(x, 2, 4);
-        refusedWith(x, 4, 5);
-        Check.same("what is given is taken first", x.agree(3), 0);
-        Check.same("a has the top still", x.has(0, 1), 1000000000);
-        x.single(1, true, 0);
-        x.offer(0, 1, 5, 0, 0, 1, 1, 0);
-        refusedWith(x, 5, 4);
-    }
-
     private static void singlesThatMayNot() {
-        GoodsKeeper x = withGoods();
+        Tape x = withGoods();
         x.single(0, false, 1);
         x.single(0, false, 0);
         x.single(0, true, 0);
@@ -200,7 +167,7 @@ public final class OffersTest {
     }
 
     private static void oneSingleOnBothSides() {
-        GoodsKeeper x = withGoods();
+        Tape x = withGoods();
         x.single(0, false, 0);
         x.single(1, false, 0);
         x.offer(0, 1, 0, 0, 0, 0, 0, 0);
@@ -210,7 +177,7 @@ public final class OffersTest {
     }
 
     private static void notedWear() {
-        GoodsKeeper x = withGoods();
+        Tape x = withGoods();
         x.single(0, false, 0);
         x.single(1, false, 0);
         x.wear(0, 5);
@@ -229,7 +196,7 @@ public final class OffersTest {
     }
 
     private static void orderOfReasons() {
-        GoodsKeeper x = withGoods();
+        Tape x = withGoods();
         x.single(2, true, 0);
         x.single(0, false, 0);
         x.single(1, false, 0);
@@ -247,7 +214,7 @@ public final class OffersTest {
     }
 
     private static void withdrawing() {
-        GoodsKeeper x = withGoods();
+        Tape x = withGoods();
         x.offer(0, 1, 1, 0, -1, 0, 0, -1);
         x.offer(0, 1, 1, 0, -1, 0, 0, -1);
         Check.same("open", x.count(7), 2);

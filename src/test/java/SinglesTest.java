@@ -7,16 +7,6 @@ public final class SinglesTest {
     private static final Class<UnsupportedOperationException> FULL = UnsupportedOperationException.class;
     private static final Class<NoSuchElementException> MISSING = NoSuchElementException.class;
 
-    private static final int OWNER = 0;
-    private static final int HOLDER = 1;
-    private static final int WEAR = 2;
-    private static final int RIGHT_WITHIN = 3;
-    private static final int ALL_WITHIN = 4;
-    private static final int LENT = 5;
-    private static final int UNTIL = 6;
-    private static final int LENDER = 7;
-    private static final int LENGTH = 8;
-
     public static void main(String[] args) {
         newSingles();
         putting();
@@ -40,41 +30,22 @@ public final class SinglesTest {
         Check.end();
     }
 
-    private static GoodsKeeper withPlayers(int players) {
-        GoodsKeeper x = new GoodsKeeper();
+    private static Tape withPlayers(int players) {
+        Tape x = new Tape();
         for (int i = 0; i < players; i++) {
             x.player();
         }
         return x;
     }
 
-    private static void place(GoodsKeeper x, int single, int owner, int holder) {
-        Check.same("owner of " + single, x.look(single, OWNER), owner);
-        Check.same("holder of " + single, x.look(single, HOLDER), holder);
-    }
-
-    private static void loan(GoodsKeeper x, int single, int lent, int until, int lender) {
-        Check.same("lent " + single, x.look(single, LENT), lent);
-        Check.same("until " + single, x.look(single, UNTIL), until);
-        Check.same("lender of " + single, x.look(single, LENDER), lender);
-    }
-
-    private static void lineEnds(GoodsKeeper x, int single, int length, int player, int day) {
-        Check.same("length of " + single, x.look(single, LENGTH), length);
-        Check.same("last of " + single, x.line(single, length - 1, false), player);
-        Check.same("last day of " + single, x.line(single, length - 1, true), day);
-        Check.same("behind the last of " + single, x.line(single, length, false), -1);
-        Check.same("behind the last day of " + single, x.line(single, length, true), -1);
-    }
-
     private static void newSingles() {
-        GoodsKeeper x = withPlayers(2);
+        Tape x = withPlayers(2);
         x.days(4);
         Check.same("single()", x.single(1, true, 8), 0);
-        place(x, 0, 1, -1);
-        Check.same("wear", x.look(0, WEAR), 0);
-        loan(x, 0, 0, -1, -1);
-        lineEnds(x, 0, 1, 1, 4);
+        Seen.place(x, 0, 1, -1);
+        Check.same("wear", x.look(0, Seen.WEAR), 0);
+        Seen.loan(x, 0, 0, -1, -1);
+        Seen.lineEnds(x, 0, 1, 1, 4);
         Check.fails(x, "single of player 2", INDEX, () -> x.single(2, false, 0));
         Check.fails(x, "single of player -1", INDEX, () -> x.single(-1, false, 0));
         Check.fails(x, "room 9", ARGUMENT, () -> x.single(0, false, 9));
@@ -89,7 +60,7 @@ public final class SinglesTest {
     }
 
     private static void putting() {
-        GoodsKeeper x = withPlayers(2);
+        Tape x = withPlayers(2);
         x.single(0, false, 2);
         x.single(0, true, 1);
         x.single(1, false, 1);
@@ -97,7 +68,7 @@ public final class SinglesTest {
         Check.refused(x, "into itself", () -> x.put(0, 0));
         Check.refused(x, "into another owner's", () -> x.put(0, 2));
         Check.same("a bound one may be put", x.put(1, 0), true);
-        place(x, 1, 0, 0);
+        Seen.place(x, 1, 0, 0);
         Check.refused(x, "into what lies in it", () -> x.put(0, 1));
         Check.refused(x, "what lies in one already", () -> x.put(1, 3));
         Check.refused(x, "again into the same", () -> x.put(1, 0));
@@ -105,7 +76,7 @@ public final class SinglesTest {
         Check.fails(x, "put of -1", INDEX, () -> x.put(-1, 0));
         Check.fails(x, "put into 4", INDEX, () -> x.put(3, 4));
         Check.fails(x, "put into -1", INDEX, () -> x.put(3, -1));
-        Check.same("no line from putting", x.look(1, LENGTH), 1);
+        Check.same("no line from putting", x.look(1, Seen.LENGTH), 1);
         x.wear(3, 100);
         Check.refused(x, "a broken one", () -> x.put(3, 0));
         Check.refused(x, "into a broken one", () -> x.put(0, 3));
@@ -115,7 +86,7 @@ public final class SinglesTest {
     }
 
     private static void puttingRoom() {
-        GoodsKeeper x = withPlayers(1);
+        Tape x = withPlayers(1);
         x.single(0, false, 8);
         x.single(0, false, 0);
         for (int i = 2; i < 12; i++) {
@@ -124,7 +95,7 @@ public final class SinglesTest {
         Check.refused(x, "no room at all", () -> x.put(2, 1));
         for (int i = 2; i < 10; i++) {
             Check.same("put " + i, x.put(i, 0), true);
-            Check.same("within", x.look(0, RIGHT_WITHIN), i - 1);
+            Check.same("within", x.look(0, Seen.RIGHT_WITHIN), i - 1);
         }
         Check.refused(x, "the ninth", () -> x.put(10, 0));
         Check.same("take one", x.take(5), true);
@@ -135,7 +106,7 @@ public final class SinglesTest {
     }
 
     private static void puttingDeep() {
-        GoodsKeeper x = withPlayers(2);
+        Tape x = withPlayers(2);
         for (int i = 0; i < 40; i++) {
             x.single(0, false, 1);
         }
@@ -144,39 +115,39 @@ public final class SinglesTest {
         }
         Check.refused(x, "the first into the last", () -> x.put(0, 39));
         for (int i = 0; i < 40; i++) {
-            Check.same("all within " + i, x.look(i, ALL_WITHIN), 39 - i);
-            Check.same("right within " + i, x.look(i, RIGHT_WITHIN), i < 39 ? 1 : 0);
+            Check.same("all within " + i, x.look(i, Seen.ALL_WITHIN), 39 - i);
+            Check.same("right within " + i, x.look(i, Seen.RIGHT_WITHIN), i < 39 ? 1 : 0);
         }
         Check.same("give it all", x.give(0, 1), true);
         for (int i = 0; i < 40; i++) {
-            place(x, i, 1, i - 1);
-            lineEnds(x, i, 2, 1, 0);
+            Seen.place(x, i, 1, i - 1);
+            Seen.lineEnds(x, i, 2, 1, 0);
         }
         Check.same("take half", x.take(20), true);
-        Check.same("within the first", x.look(0, ALL_WITHIN), 19);
-        Check.same("within the other half", x.look(20, ALL_WITHIN), 19);
+        Check.same("within the first", x.look(0, Seen.ALL_WITHIN), 19);
+        Check.same("within the other half", x.look(20, Seen.ALL_WITHIN), 19);
         Check.same("turn it round", x.put(0, 39), true);
-        Check.same("within the other half now", x.look(20, ALL_WITHIN), 39);
+        Check.same("within the other half now", x.look(20, Seen.ALL_WITHIN), 39);
     }
 
     private static void taking() {
-        GoodsKeeper x = withPlayers(1);
+        Tape x = withPlayers(1);
         x.single(0, false, 1);
         x.single(0, false, 1);
         Check.refused(x, "it lies in none", () -> x.take(0));
         x.put(1, 0);
         Check.refused(x, "it holds, but lies in none", () -> x.take(0));
         Check.same("take", x.take(1), true);
-        place(x, 1, 0, -1);
-        Check.same("nothing within", x.look(0, RIGHT_WITHIN), 0);
-        Check.same("no line from taking", x.look(1, LENGTH), 1);
+        Seen.place(x, 1, 0, -1);
+        Check.same("nothing within", x.look(0, Seen.RIGHT_WITHIN), 0);
+        Check.same("no line from taking", x.look(1, Seen.LENGTH), 1);
         Check.refused(x, "take again", () -> x.take(1));
         Check.fails(x, "take of 2", INDEX, () -> x.take(2));
         Check.fails(x, "take of -1", INDEX, () -> x.take(-1));
     }
 
     private static void giving() {
-        GoodsKeeper x = withPlayers(3);
+        Tape x = withPlayers(3);
         x.single(0, false, 1);
         x.single(0, false, 1);
         x.single(0, false, 0);
@@ -189,13 +160,13 @@ public final class SinglesTest {
         Check.refused(x, "a bound one", () -> x.give(3, 1));
         Check.same("give", x.give(0, 1), true);
         for (int i = 0; i < 3; i++) {
-            place(x, i, 1, i - 1);
-            lineEnds(x, i, 2, 1, 7);
+            Seen.place(x, i, 1, i - 1);
+            Seen.lineEnds(x, i, 2, 1, 7);
         }
-        place(x, 3, 0, -1);
-        Check.same("not another's line", x.look(3, LENGTH), 1);
+        Seen.place(x, 3, 0, -1);
+        Check.same("not another's line", x.look(3, Seen.LENGTH), 1);
         Check.same("and on", x.give(0, 2), true);
-        lineEnds(x, 2, 3, 2, 7);
+        Seen.lineEnds(x, 2, 3, 2, 7);
         Check.fails(x, "give of 4", INDEX, () -> x.give(4, 0));
         Check.fails(x, "give of -1", INDEX, () -> x.give(-1, 0));
         Check.fails(x, "give to 3", INDEX, () -> x.give(0, 3));
@@ -206,7 +177,7 @@ public final class SinglesTest {
     }
 
     private static void givingWhatHoldsBound() {
-        GoodsKeeper x = withPlayers(2);
+        Tape x = withPlayers(2);
         x.single(0, false, 1);
         x.single(0, false, 1);
         x.single(0, true, 0);
@@ -216,11 +187,11 @@ public final class SinglesTest {
         Check.refused(x, "nor lent", () -> x.lend(0, 1, 5));
         x.take(2);
         Check.same("without it", x.give(0, 1), true);
-        place(x, 2, 0, -1);
+        Seen.place(x, 2, 0, -1);
     }
 
     private static void lending() {
-        GoodsKeeper x = withPlayers(3);
+        Tape x = withPlayers(3);
         x.single(0, false, 2);
         x.single(0, false, 0);
         x.single(1, false, 1);
@@ -228,12 +199,12 @@ public final class SinglesTest {
         x.put(1, 0);
         x.days(3);
         Check.same("lend", x.lend(0, 1, 5), true);
-        place(x, 0, 1, -1);
-        place(x, 1, 1, 0);
-        loan(x, 0, 1, 5, 0);
-        loan(x, 1, 0, -1, -1);
-        lineEnds(x, 0, 2, 1, 3);
-        lineEnds(x, 1, 2, 1, 3);
+        Seen.place(x, 0, 1, -1);
+        Seen.place(x, 1, 1, 0);
+        Seen.loan(x, 0, 1, 5, 0);
+        Seen.loan(x, 1, 0, -1, -1);
+        Seen.lineEnds(x, 0, 2, 1, 3);
+        Seen.lineEnds(x, 1, 2, 1, 3);
         Check.same("lent", x.count(5), 1);
         Check.refused(x, "what is lent is not given", () -> x.give(0, 2));
         Check.refused(x, "not even back", () -> x.give(0, 0));
@@ -245,22 +216,22 @@ public final class SinglesTest {
         Check.same("and given away", x.give(1, 2), true);
         Check.same("something is put in", x.put(3, 0), true);
         Check.same("a day ahead", x.days(1), 4);
-        place(x, 0, 1, 2);
+        Seen.place(x, 0, 1, 2);
         Check.same("the day", x.days(1), 5);
-        place(x, 0, 0, -1);
-        place(x, 1, 2, -1);
-        place(x, 2, 1, -1);
-        place(x, 3, 0, 0);
-        loan(x, 0, 0, -1, -1);
-        lineEnds(x, 0, 3, 0, 5);
-        lineEnds(x, 2, 1, 1, 0);
-        lineEnds(x, 3, 2, 0, 5);
+        Seen.place(x, 0, 0, -1);
+        Seen.place(x, 1, 2, -1);
+        Seen.place(x, 2, 1, -1);
+        Seen.place(x, 3, 0, 0);
+        Seen.loan(x, 0, 0, -1, -1);
+        Seen.lineEnds(x, 0, 3, 0, 5);
+        Seen.lineEnds(x, 2, 1, 1, 0);
+        Seen.lineEnds(x, 3, 2, 0, 5);
         Check.same("lent no more", x.count(5), 0);
         Check.same("it may be given again", x.give(0, 2), true);
     }
 
     private static void lendingRefused() {
-        GoodsKeeper x = withPlayers(2);
+        Tape x = withPlayers(2);
         x.single(0, false, 1);
         x.single(0, false, 1);
         x.single(0, true, 0);
@@ -281,98 +252,98 @@ public final class SinglesTest {
         x.wear(3, 100);
         Check.refused(x, "a broken one", () -> x.lend(3, 1, 4));
         Check.same("up to the last day", x.lend(0, 1, Integer.MAX_VALUE), true);
-        Check.same("the last day", x.look(0, UNTIL), Integer.MAX_VALUE);
+        Check.same("the last day", x.look(0, Seen.UNTIL), Integer.MAX_VALUE);
         x.days(1000);
-        loan(x, 0, 1, Integer.MAX_VALUE, 0);
+        Seen.loan(x, 0, 1, Integer.MAX_VALUE, 0);
     }
 
     private static void lentWithin() {
-        GoodsKeeper x = withPlayers(3);
+        Tape x = withPlayers(3);
         x.single(0, false, 1);
         x.single(1, false, 1);
         Check.same("lend 0 to 2", x.lend(0, 2, 7), true);
         Check.same("lend 1 to 2", x.lend(1, 2, 5), true);
         Check.same("0 into 1", x.put(0, 1), true);
         x.days(5);
-        place(x, 1, 1, -1);
-        place(x, 0, 1, 1);
-        loan(x, 0, 1, 7, 0);
-        lineEnds(x, 0, 3, 1, 5);
+        Seen.place(x, 1, 1, -1);
+        Seen.place(x, 0, 1, 1);
+        Seen.loan(x, 0, 1, 7, 0);
+        Seen.lineEnds(x, 0, 3, 1, 5);
         x.days(2);
-        place(x, 0, 0, -1);
-        place(x, 1, 1, -1);
-        loan(x, 0, 0, -1, -1);
-        lineEnds(x, 0, 4, 0, 7);
-        lineEnds(x, 1, 3, 1, 5);
+        Seen.place(x, 0, 0, -1);
+        Seen.place(x, 1, 1, -1);
+        Seen.loan(x, 0, 0, -1, -1);
+        Seen.lineEnds(x, 0, 4, 0, 7);
+        Seen.lineEnds(x, 1, 3, 1, 5);
     }
 
     /** As lentWithin, but the days pass in one call: the earlier day still comes first, with its own date. */
     private static void comingBackByDays() {
-        GoodsKeeper x = withPlayers(3);
+        Tape x = withPlayers(3);
         x.single(0, false, 1);
         x.single(1, false, 1);
         x.lend(0, 2, 7);
         x.lend(1, 2, 5);
         x.put(0, 1);
         Check.same("days", x.days(100), 100);
-        place(x, 0, 0, -1);
-        place(x, 1, 1, -1);
-        lineEnds(x, 0, 4, 0, 7);
+        Seen.place(x, 0, 0, -1);
+        Seen.place(x, 1, 1, -1);
+        Seen.lineEnds(x, 0, 4, 0, 7);
         Check.same("it went along", x.line(0, 2, false), 1);
         Check.same("on the earlier day", x.line(0, 2, true), 5);
-        lineEnds(x, 1, 3, 1, 5);
+        Seen.lineEnds(x, 1, 3, 1, 5);
     }
 
     private static void comingBackByNumbers() {
-        GoodsKeeper x = withPlayers(3);
+        Tape x = withPlayers(3);
         x.single(0, false, 1);
         x.single(1, false, 1);
         x.lend(0, 2, 5);
         x.lend(1, 2, 5);
         x.put(0, 1);
         x.days(5);
-        lineEnds(x, 0, 3, 0, 5);
-        lineEnds(x, 1, 3, 1, 5);
+        Seen.lineEnds(x, 0, 3, 0, 5);
+        Seen.lineEnds(x, 1, 3, 1, 5);
 
-        GoodsKeeper y = withPlayers(3);
+        Tape y = withPlayers(3);
         y.single(1, false, 1);
         y.single(0, false, 1);
         y.lend(0, 2, 5);
         y.lend(1, 2, 5);
         y.put(1, 0);
         y.days(5);
-        lineEnds(y, 0, 3, 1, 5);
-        lineEnds(y, 1, 4, 0, 5);
+        Seen.lineEnds(y, 0, 3, 1, 5);
+        Seen.lineEnds(y, 1, 4, 0, 5);
         Check.same("it went along first", y.line(1, 2, false), 1);
-        place(y, 0, 1, -1);
-        place(y, 1, 0, -1);
+        Seen.place(y, 0, 1, -1);
+        Seen.place(y, 1, 0, -1);
     }
 
     /** Whoever lent it may have it already, within something else: it comes back, with a line, all the same. */
     private static void comingBackToItsOwner() {
-        GoodsKeeper x = withPlayers(2);
+        Tape x = withPlayers(2);
         x.single(0, false, 1);
         x.single(0, false, 1);
         x.lend(0, 1, 7);
         x.lend(1, 1, 5);
         x.put(0, 1);
         x.days(5);
-        place(x, 0, 0, 1);
-        loan(x, 0, 1, 7, 0);
+        Seen.place(x, 0, 0, 1);
+        Seen.loan(x, 0, 1, 7, 0);
         Check.refused(x, "it is lent still", () -> x.give(1, 1));
         x.days(2);
-        place(x, 0, 0, -1);
-        loan(x, 0, 0, -1, -1);
-        lineEnds(x, 0, 4, 0, 7);
+        Seen.place(x, 0, 0, -1);
+        Seen.loan(x, 0, 0, -1, -1);
+        Seen.lineEnds(x, 0, 4, 0, 7);
     }
 
     private static void wearing() {
-        GoodsKeeper x = withPlayers(1);
+        Tape x = withPlayers(1);
         x.single(0, false, 1);
         x.single(0, false, 1);
         Check.same("wear", x.wear(0, 1), 1);
         Check.same("wear on", x.wear(0, 98), 99);
-        place(x, 0, 0, -1);
+        Seen.place(x, 0, 0, -1);
         Check.fails(x, "wear 0", ARGUMENT, () -> x.wear(0, 0));
         Check.fails(x, "wear -1", ARGUMENT, () -> x.wear(0, -1));
         Check.fails(x, "wear 101", ARGUMENT, () -> x.wear(0, 101));
@@ -380,19 +351,17 @@ public final class SinglesTest {
         Check.fails(x, "wear of -1", INDEX, () -> x.wear(-1, 1));
         Check.fails(x, "index ahead of argument", INDEX, () -> x.wear(2, 0));
         Check.same("never above 100", x.wear(0, 100), 100);
-        Check.same("broken", x.look(0, OWNER), -1);
-        Check.same("its wear", x.look(0, WEAR), 100);
-        String before = Check.state(x);
-        Check.same("no more", x.wear(0, 1), -1);
-        Check.sameState("wear of a broken one", before, x);
+        Check.same("broken", x.look(0, Seen.OWNER), -1);
+        Check.same("its wear", x.look(0, Seen.WEAR), 100);
+        Check.idle(x, "no more", -1, () -> x.wear(0, 1));
         Check.fails(x, "argument ahead of broken", ARGUMENT, () -> x.wear(0, 0));
-        Check.same("the other one", x.look(1, WEAR), 0);
+        Check.same("the other one", x.look(1, Seen.WEAR), 0);
         Check.same("all at once", x.wear(1, 100), 100);
         Check.same("broken ones", x.count(4), 2);
     }
 
     private static void breaking() {
-        GoodsKeeper x = withPlayers(2);
+        Tape x = withPlayers(2);
         x.single(0, false, 1);
         x.single(0, true, 2);
         x.single(0, false, 1);
@@ -404,15 +373,15 @@ public final class SinglesTest {
         x.put(4, 1);
         x.days(2);
         Check.same("break the middle", x.wear(1, 100), 100);
-        place(x, 0, 0, -1);
-        place(x, 1, -1, -1);
-        place(x, 2, 0, -1);
-        place(x, 3, 0, 2);
-        place(x, 4, 0, -1);
-        Check.same("nothing within the first", x.look(0, ALL_WITHIN), 0);
-        Check.same("nothing within it", x.look(1, ALL_WITHIN), 0);
+        Seen.place(x, 0, 0, -1);
+        Seen.place(x, 1, -1, -1);
+        Seen.place(x, 2, 0, -1);
+        Seen.place(x, 3, 0, 2);
+        Seen.place(x, 4, 0, -1);
+        Check.same("nothing within the first", x.look(0, Seen.ALL_WITHIN), 0);
+        Check.same("nothing within it", x.look(1, Seen.ALL_WITHIN), 0);
         for (int i = 0; i < 5; i++) {
-            Check.same("no line from breaking", x.look(i, LENGTH), 1);
+            Check.same("no line from breaking", x.look(i, Seen.LENGTH), 1);
         }
         Check.refused(x, "take it", () -> x.take(1));
         Check.same("what was bound within is out", x.give(0, 1), true);
@@ -420,24 +389,24 @@ public final class SinglesTest {
     }
 
     private static void breakingWhatIsLent() {
-        GoodsKeeper x = withPlayers(2);
+        Tape x = withPlayers(2);
         x.single(0, false, 1);
         x.single(0, false, 0);
         x.put(1, 0);
         x.lend(0, 1, 5);
         x.wear(0, 100);
-        loan(x, 0, 0, -1, -1);
+        Seen.loan(x, 0, 0, -1, -1);
         Check.same("none is lent", x.count(5), 0);
-        place(x, 1, 1, -1);
+        Seen.place(x, 1, 1, -1);
         x.days(9);
-        place(x, 0, -1, -1);
-        place(x, 1, 1, -1);
-        Check.same("its line stays", x.look(0, LENGTH), 2);
+        Seen.place(x, 0, -1, -1);
+        Seen.place(x, 1, 1, -1);
+        Check.same("its line stays", x.look(0, Seen.LENGTH), 2);
         Check.same("what was within may be given", x.give(1, 0), true);
     }
 
     private static void daysPass() {
-        GoodsKeeper x = withPlayers(1);
+        Tape x = withPlayers(1);
         Check.same("0 days", x.days(0), 0);
         Check.same("1000 days", x.days(1000), 1000);
         Check.same("and 1", x.days(1), 1001);
@@ -447,7 +416,7 @@ public final class SinglesTest {
     }
 
     private static void looking() {
-        GoodsKeeper x = withPlayers(2);
+        Tape x = withPlayers(2);
         x.single(1, false, 2);
         x.single(1, false, 2);
         x.single(1, false, 2);
@@ -459,7 +428,7 @@ public final class SinglesTest {
         for (int what = 0; what < due.length; what++) {
             Check.same("look " + what, x.look(0, what), due[what]);
         }
-        Check.same("holder", x.look(2, HOLDER), 1);
+        Check.same("holder", x.look(2, Seen.HOLDER), 1);
         Check.fails(x, "what 9", MISSING, () -> x.look(0, 9));
         Check.fails(x, "what -1", MISSING, () -> x.look(0, -1));
         Check.fails(x, "single 3", INDEX, () -> x.look(3, 0));
@@ -468,12 +437,12 @@ public final class SinglesTest {
     }
 
     private static void lines() {
-        GoodsKeeper x = withPlayers(2);
+        Tape x = withPlayers(2);
         x.single(0, false, 0);
         for (int i = 1; i <= 35; i++) {
             x.days(1);
             Check.same("give", x.give(0, i % 2), true);
-            Check.same("length", x.look(0, LENGTH), i + 1);
+            Check.same("length", x.look(0, Seen.LENGTH), i + 1);
         }
         for (int k = 0; k < 30; k++) {
             Check.same("player " + k, x.line(0, k, false), k % 2);
