@@ -30,7 +30,7 @@ final class Edge {
         return x;
     }
 
-    /** The least and the most are taken, and so are their neighbours within; those beyond, and the far ends, are not. */
+    /** The least, the most and their neighbours within are taken; those beyond, and the far ends, are not. */
     static void range(int promise, String boundary, int least, int most, Consumer<Tape> scene, Call call) {
         ends(promise, boundary, least, most, ARGUMENT, scene, call);
     }
@@ -102,6 +102,13 @@ final class Edge {
     static void chain(Tape x, int first, int last) {
         for (int single = first + 1; single <= last; single++) {
             Check.same("put " + single, x.put(single, single - 1), true);
+        }
+    }
+
+    /** One of these singles lies in the one behind it, each in turn: what lies deeper has a lower number. */
+    static void chainBack(Tape x, int first, int last) {
+        for (int single = first; single < last; single++) {
+            Check.same("put " + single, x.put(single, single + 1), true);
         }
     }
 

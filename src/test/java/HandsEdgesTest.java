@@ -246,6 +246,14 @@ public final class HandsEdgesTest {
         Seen.lineEnds(x, 3, 1, 0, 0);
         Seen.lineEnds(x, 4, 1, 1, 0);
         Check.same("none is LENT", x.count(5), 0);
+        Tape back = Edge.begin(11, "all within it goes along, with lower numbers too", y -> Edge.players(y, 2));
+        Edge.singles(back, 0, 4, 1);
+        Edge.chainBack(back, 0, 3);
+        Check.same("give", back.give(3, 1), true);
+        for (int single = 0; single < 4; single++) {
+            Seen.place(back, single, 1, single < 3 ? single + 1 : -1);
+            Seen.lineEnds(back, single, 2, 1, 0);
+        }
         Tape twice = Edge.begin(11, "twice on one day, the LINE has both", HandsEdgesTest::alone);
         twice.give(0, 1);
         twice.give(0, 2);
@@ -413,6 +421,15 @@ public final class HandsEdgesTest {
             Check.same("length of " + single, x.look(single, Seen.LENGTH), 3);
             Check.same("the day of " + single, x.line(single, 2, true), 7);
             Check.same("the day ahead of " + single, x.line(single, 1, true), 3);
+        }
+        Tape back = Edge.begin(14, "all within it goes back with it, with lower numbers too", y -> Edge.players(y, 2));
+        Edge.singles(back, 0, 4, 1);
+        Edge.chainBack(back, 0, 3);
+        back.lend(3, 1, 2);
+        back.days(2);
+        for (int single = 0; single < 4; single++) {
+            Seen.place(back, single, 0, single < 3 ? single + 1 : -1);
+            Seen.lineEnds(back, single, 3, 0, 2);
         }
     }
 

@@ -20,14 +20,6 @@ public final class HuntTest {
         Check.end();
     }
 
-    private static int ruleOf(Tape x, boolean source, int... won) {
-        int rule = x.rule(source);
-        for (int kind = 0; kind < won.length; kind++) {
-            x.part(rule, kind, won[kind] > 0, Math.abs(won[kind]));
-        }
-        return rule;
-    }
-
     private static void noRules() {
         Tape x = new Tape();
         Check.same("gains", x.gains(), false);
@@ -41,7 +33,7 @@ public final class HuntTest {
 
     private static void sourcesAreLeftAside() {
         Tape x = new Tape();
-        ruleOf(x, true, 1, 1, 1, 1);
+        Edge.rule(x, true, 1, 1, 1, 1);
         x.times(0, 1000);
         for (int kind = 0; kind < KINDS; kind++) {
             x.weigh(kind, 1);
@@ -49,7 +41,7 @@ public final class HuntTest {
         Check.same("gains", x.gains(), false);
         Check.same("earns", x.earns(), false);
         Check.same("bars", x.bars(), true);
-        ruleOf(x, false, 0, 0, 0, 1);
+        Edge.rule(x, false, 0, 0, 0, 1);
         Check.same("gains then", x.gains(), true);
         Check.same("earns not", x.earns(), false);
         Check.same("bars not", x.bars(), false);
@@ -59,9 +51,9 @@ public final class HuntTest {
 
     private static void roundTrip() {
         Tape x = new Tape();
-        ruleOf(x, false, -2, 3);
+        Edge.rule(x, false, -2, 3);
         Check.same("one way", x.gains(), false);
-        ruleOf(x, false, 2, -3);
+        Edge.rule(x, false, 2, -3);
         Check.same("there and back", x.gains(), false);
         x.part(1, 2, true, 1);
         Check.same("with something over", x.gains(), true);
@@ -76,9 +68,9 @@ public final class HuntTest {
 
     private static void gainNeedsNoLoss() {
         Tape x = new Tape();
-        ruleOf(x, false, 9, 9, 9, -1);
+        Edge.rule(x, false, 9, 9, 9, -1);
         Check.same("one kind is lost", x.gains(), false);
-        ruleOf(x, false, -9, -9, -9, 1);
+        Edge.rule(x, false, -9, -9, -9, 1);
         Check.same("won back at the same price", x.gains(), false);
         x.part(1, 0, false, 8);
         Check.same("a little over", x.gains(), true);
@@ -87,16 +79,16 @@ public final class HuntTest {
     /** One of the last is worth 729 of the first: the only gain is a small one, after many times. */
     private static void manyTimes() {
         Tape x = new Tape();
-        ruleOf(x, false, -9, 1, 0, 0);
-        ruleOf(x, false, 0, -9, 1, 0);
-        ruleOf(x, false, 0, 0, -9, 1);
-        int back = ruleOf(x, false, 8, 8, 8, -1);
+        Edge.rule(x, false, -9, 1, 0, 0);
+        Edge.rule(x, false, 0, -9, 1, 0);
+        Edge.rule(x, false, 0, 0, -9, 1);
+        int back = Edge.rule(x, false, 8, 8, 8, -1);
         Check.same("728 for 729", x.gains(), false);
         x.part(back, 0, true, 9);
         Check.same("729 for 729", x.gains(), false);
-        ruleOf(x, false, 9, -1, 0, 0);
-        ruleOf(x, false, 0, 9, -1, 0);
-        ruleOf(x, false, 0, 0, 9, -1);
+        Edge.rule(x, false, 9, -1, 0, 0);
+        Edge.rule(x, false, 0, 9, -1, 0);
+        Edge.rule(x, false, 0, 0, 9, -1);
         Check.same("there and back at every step", x.gains(), false);
         x.part(back, 1, true, 9);
         x.part(back, 0, true, 1);
@@ -107,10 +99,10 @@ public final class HuntTest {
 
     private static void longWay() {
         Tape x = new Tape();
-        ruleOf(x, false, -7, 8, 0, 0);
-        ruleOf(x, false, 0, -8, 9, 0);
-        ruleOf(x, false, 0, 0, -9, 5);
-        int back = ruleOf(x, false, 7, 0, 0, -5);
+        Edge.rule(x, false, -7, 8, 0, 0);
+        Edge.rule(x, false, 0, -8, 9, 0);
+        Edge.rule(x, false, 0, 0, -9, 5);
+        int back = Edge.rule(x, false, 7, 0, 0, -5);
         Check.same("a ring without gain", x.gains(), false);
         x.part(back, 3, false, 4);
         Check.same("a ring with gain", x.gains(), true);
@@ -120,8 +112,8 @@ public final class HuntTest {
 
     private static void timesAreTold() {
         Tape x = new Tape();
-        ruleOf(x, false, -2, 3);
-        ruleOf(x, false, 2, -2);
+        Edge.rule(x, false, -2, 3);
+        Edge.rule(x, false, 2, -2);
         x.times(0, 1);
         Check.same("half of it", x.earns(), false);
         x.times(1, 1);
@@ -168,7 +160,7 @@ public final class HuntTest {
 
     private static void barring() {
         Tape x = new Tape();
-        ruleOf(x, false, -2, 3);
+        Edge.rule(x, false, -2, 3);
         x.weigh(0, 3);
         x.weigh(1, 2);
         x.weigh(2, 1);
@@ -180,7 +172,7 @@ public final class HuntTest {
         x.weigh(0, 1000);
         x.weigh(1, 666);
         Check.same("OUT weighs less", x.bars(), true);
-        ruleOf(x, false, 2, -3);
+        Edge.rule(x, false, 2, -3);
         Check.same("the way back weighs more", x.bars(), false);
         x.weigh(1, 667);
         Check.same("now the way there does", x.bars(), false);
@@ -200,7 +192,7 @@ public final class HuntTest {
             Tape x = new Tape();
             for (int[] each : won) {
                 boolean source = random.nextInt(8) == 0;
-                ruleOf(x, source, each);
+                Edge.rule(x, source, each);
                 if (source) {
                     java.util.Arrays.fill(each, 0);
                 }

@@ -194,6 +194,10 @@ public final class SinglesEdgesTest {
             x.take(last);
             Check.same("it lies there no more", x.put(0, last), true);
             Check.same("all within it", x.look(last, Seen.ALL_WITHIN), last);
+            Tape back = Edge.begin(9, "the other one, of a lower number, lies in it through " + last + " steps",
+                    things(last + 1, 2));
+            Edge.chainBack(back, 0, last);
+            Check.refused(back, "put", () -> back.put(last, 0));
         }
     }
 
@@ -411,6 +415,15 @@ public final class SinglesEdgesTest {
                 Seen.lineEnds(x, single, 1, 0, 0);
             }
         }
+        Tape back = Edge.begin(13, "what lies deeper stays where it lies, with lower numbers too", things(5, 1));
+        Edge.chainBack(back, 0, 4);
+        Check.same("wear", back.wear(3, 100), 100);
+        int[] holders = {1, 2, -1, -1, -1};
+        for (int single = 0; single < 5; single++) {
+            Seen.place(back, single, single == 3 ? -1 : 0, holders[single]);
+        }
+        Seen.within(back, 4, 0, 0);
+        Seen.within(back, 2, 1, 2);
     }
 
     private static void breakWhatIsLent() {
@@ -492,6 +505,11 @@ public final class SinglesEdgesTest {
         Edge.chain(deep, 0, 39);
         for (int single = 0; single < ALL; single++) {
             Seen.within(deep, single, single < 39 ? 1 : 0, 39 - single);
+        }
+        Tape back = Edge.begin(15, "39 steps within, with lower numbers", things(ALL, 1));
+        Edge.chainBack(back, 0, 39);
+        for (int single = 0; single < ALL; single++) {
+            Seen.within(back, single, single > 0 ? 1 : 0, single);
         }
         Tape wide = Edge.begin(15, "8 right within, and 31 more through steps", things(ALL, 8));
         for (int single = 1; single < ALL; single++) {

@@ -18,6 +18,7 @@ public final class TopTest {
 
     public static void main(String[] args) {
         deedToTheTop();
+        deedOfEachKindToTheTop();
         deedTakesFirst();
         deedTooFewAheadOfTooMany();
         deedSentAgain();
@@ -81,6 +82,23 @@ public final class TopTest {
         Check.same("made in all", test.keeper.sum(KIND, false), TOP);
         Check.same("another player is not at the top", test.deed(1, 1), 0);
         Check.same("made by both", test.keeper.sum(KIND, false), TOP + 1L);
+    }
+
+    private static void deedOfEachKindToTheTop() {
+        for (int kind = 0; kind < 4; kind++) {
+            Check.begin("promise 5, at the end at most 1000000000 of KIND " + kind);
+            TopTest test = new TopTest();
+            test.bring(0, kind, TOP);
+            for (int other = 0; other < 4; other++) {
+                test.keeper.part(0, other, true, other == kind ? 0 : 1);
+            }
+            Check.same("the others alone", test.deed(0, 1), 0);
+            test.keeper.part(0, kind, true, 1);
+            Check.same("one above the top", test.deed(0, 1), 2);
+            for (int other = 0; other < 4; other++) {
+                Check.same("has of " + other, test.keeper.has(0, other), other == kind ? TOP : 1);
+            }
+        }
     }
 
     private static void deedTakesFirst() {
