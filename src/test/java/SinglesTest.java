@@ -17,6 +17,7 @@ public final class SinglesTest {
         givingWhatHoldsBound();
         lending();
         lendingRefused();
+        lendingWhatWasGiven();
         lentWithin();
         comingBackByDays();
         comingBackByNumbers();
@@ -255,6 +256,29 @@ public final class SinglesTest {
         Check.same("the last day", x.look(0, Seen.UNTIL), Integer.MAX_VALUE);
         x.days(1000);
         Seen.loan(x, 0, 1, Integer.MAX_VALUE, 0);
+    }
+
+    /** Its lender is who has it as it is lent: not its first owner, nor an earlier lender. */
+    private static void lendingWhatWasGiven() {
+        Tape x = withPlayers(3);
+        x.single(0, false, 0);
+        Check.same("lend", x.lend(0, 2, 1), true);
+        x.days(1);
+        Check.same("give", x.give(0, 1), true);
+        Check.same("lend what was given", x.lend(0, 2, 4), true);
+        Seen.loan(x, 0, 1, 4, 1);
+        x.days(3);
+        Seen.place(x, 0, 1, -1);
+        Seen.loan(x, 0, 0, -1, -1);
+        Seen.lineEnds(x, 0, 6, 1, 4);
+
+        Check.same("offer", x.offer(1, 2, 0, 0, 0, 0, 0, -1), 0);
+        Check.same("agree", x.agree(0), 0);
+        Check.same("lend what was traded", x.lend(0, 0, 9), true);
+        Seen.loan(x, 0, 1, 9, 2);
+        x.days(5);
+        Seen.place(x, 0, 2, -1);
+        Seen.lineEnds(x, 0, 9, 2, 9);
     }
 
     private static void lentWithin() {
